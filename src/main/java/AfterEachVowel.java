@@ -230,7 +230,7 @@ public final class AfterEachVowel {
         if (!isWithin(what, 1)) {
             return NO_ANSWER;
         }
-        orders.search(now, judge, law());
+        orders.search(now, law());
         return what == 0 ? orders.most : orders.best;
     }
 
@@ -516,7 +516,7 @@ public final class AfterEachVowel {
             return 0;
         }
         judge.regard(now, now.row, word, spare);
-        return what == Text.HARD ? judge.hard(now, now.row, law()) : judge.bounded(law(), what);
+        return what == Text.HARD ? judge.hard(now, now.row, law()) : law().tells(what, judge.facts);
     }
 
     private int roundOf(int word) {
@@ -1005,7 +1005,8 @@ public final class AfterEachVowel {
         void sayAll(State state, Row row) {
             size = state.words;
             for (int word = 0; word < size; word++) {
-                each[word].say(state, row, word);
+                each[word].begin(state, word);
+                each[word].turnByRow(state, row);
             }
         }
 
@@ -1064,7 +1065,7 @@ public final class AfterEachVowel {
 
     /** HARD, hides, minds and WORTH by a text. */
     private static final class Judge {
-        private final int[] facts = new int[Tape.NAMES];
+        final int[] facts = new int[Tape.NAMES];
 
         /** What the NAMES of texts tell from now on; wants a saying that isn't TOO LONG. */
         void regard(State state, Row row, int word, Saying saying) {
@@ -1077,12 +1078,8 @@ public final class AfterEachVowel {
             facts[5] = state.weights[word];
         }
 
-        int bounded(Text law, int part) {
-            return Math.max(0, Math.min(MOST_TOLD, law.value(part, facts)));
-        }
-
         int hard(State state, Row row, Text law) {
-            int v = bounded(law, Text.HARD);
+            int v = law.tells(Text.HARD, facts);
             int last = row.last();
             return last == NONE ? v : Math.max(0, hardBy(state.kinds[last], state.numbers[last], v));
         }
@@ -1109,9 +1106,9 @@ public final class AfterEachVowel {
             for (int word = 0; word < sayings.size; word++) {
                 if (!sayings.each[word].isTooLong()) {
                     regard(state, row, word, sayings.each[word]);
-                    worth += bounded(law, Text.HIDES) - hard(state, row, law);
+                    worth += law.tells(Text.HIDES, facts) - hard(state, row, law);
                     if ((alike >>> word & 1) != 0) {
-                        worth -= bounded(law, Text.MINDS);
+                        worth -= law.tells(Text.MINDS, facts);
                     }
                 }
             }
@@ -1124,9 +1121,7 @@ public final class AfterEachVowel {
         /** stages[d]: all WORDS, turned by the first d RULES of the way that is looked at. */
         private final Sayings[] stages = new Sayings[MOST_RULES + 1];
         private final Row way = new Row();
-        private State state;
-        private Judge judge;
-        private Text law;
+        private final Judge judge = new Judge();
         private boolean isFirst;
         int most;
         int best;
@@ -1137,20 +1132,17 @@ public final class AfterEachVowel {
             }
         }
 
-        void search(State of, Judge by, Text text) {
-            state = of;
-            judge = by;
-            law = text;
+        void search(State state, Text law) {
             isFirst = true;
             way.size = 0;
-            stages[0].begin(of);
-            goOn(0, 0, 0);
+            stages[0].begin(state);
+            goOn(state, law, 0, 0, 0);
         }
 
         /** depth RULES stand already: used (bits), as digits. */
-        private void goOn(int depth, int used, int digits) {
+        private void goOn(State state, Text law, int depth, int used, int digits) {
             if (depth >= state.rules || depth >= MOST_RULES) {
-                regardWay(stages[depth], digits);
+                keepBetter(judge.worth(state, way, law, stages[depth]), digits);
                 return;
             }
             for (int rule = 0; rule < state.rules; rule++) {
@@ -1158,13 +1150,12 @@ public final class AfterEachVowel {
                     way.size = depth;
                     way.push(rule);
                     stages[depth + 1].becomeTurned(stages[depth], state, rule);
-                    goOn(depth + 1, used | 1 << rule, digits * 10 + rule + 1);
+                    goOn(state, law, depth + 1, used | 1 << rule, digits * 10 + rule + 1);
                 }
             }
         }
 
-        private void regardWay(Sayings sayings, int digits) {
-            int worth = judge.worth(state, way, law, sayings);
+        private void keepBetter(int worth, int digits) {
             if (isFirst || worth > most) {
                 isFirst = false;
                 most = worth;
@@ -1207,13 +1198,14 @@ public final class AfterEachVowel {
             ends[part] = size;
         }
 
-        int value(int part, int[] facts) {
+        /** What hard, hides or minds tells, within its bounds. */
+        int tells(int part, int[] facts) {
             int value = 0;
             for (int i = part == HARD ? 0 : ends[part - 1]; i < ends[part]; i++) {
                 value = worked(ops[i], lefts[i], rights[i], facts);
                 values[i] = value;
             }
-            return value;
+            return Math.max(0, Math.min(MOST_TOLD, value));
         }
 
         private int worked(int op, int left, int right, int[] facts) {

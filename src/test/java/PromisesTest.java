@@ -20,6 +20,7 @@ public final class PromisesTest {
         promise9Faults();
         promise9Nesting();
         promise9Values();
+        promise9Dense();
         promise10();
         promise11();
         promise12();
@@ -255,6 +256,8 @@ public final class PromisesTest {
         due("set(-1, 0, 0)", x.set(-1, 0, 0), -100);
         due("told(0, 1)", x.told(0, 1), 0);
         due("told(0, 2)", x.told(0, 2), 25);
+        due("told(0, 3)", x.told(0, 3), 3);
+        due("told(1, 2)", x.told(1, 2), 24);
         due("told(1, 3)", x.told(1, 3), 0);
         due("told(0, 4)", x.told(0, 4), 1);
         AfterEachVowel y = begin(6);
@@ -359,6 +362,14 @@ public final class PromisesTest {
         fault("hard 00000;", 5);
         fault("hard 9999;hides 0000;minds 0;", NONE);
         fault("hardlong;", 0);
+        fault("hardz 1;", 0);
+        fault("harda 1;", 0);
+        fault("hard zlong;", 5);
+        fault("hard longz;", 5);
+        fault(";".repeat(160), 0);
+        fault("-".repeat(160), 0);
+        fault("hard " + "1+".repeat(77) + "1", 160);
+        fault("hard " + "1+".repeat(77) + "+", 159);
         fault("hard longer;", 5);
         fault("hard lon;", 5);
         fault("hard long3;", 9);
@@ -476,6 +487,24 @@ public final class PromisesTest {
         value("2*3*4", 24);
     }
 
+    /** 160 bytes, with as many cells as there can be. */
+    private static String dense(char sign) {
+        return "hard-1" + (sign + "1").repeat(68) + ";hides 2;minds 30;";
+    }
+
+    private static void promise9Dense() {
+        AfterEachVowel x = begin(9);
+        learn(x, "b", 0);
+        due("bytes", dense('+').length(), 160);
+        due("a faulty dense one", read(x, dense('+').replace("hides", "hidez")), -100 - 143);
+        due("another", read(x, dense('+').replace("minds", "mindz")), -100 - 151);
+        due("a dense one", read(x, dense('+')), 1);
+        x.force(1);
+        due("its hard", x.of(0, 0), 67);
+        due("its hides", x.of(0, 1), 2);
+        due("its minds", x.of(0, 2), 30);
+    }
+
     private static int bounded(int v) {
         return Math.max(0, Math.min(99, v));
     }
@@ -537,7 +566,7 @@ public final class PromisesTest {
         due("TOO LONG", x.said(0, 40), BAD);
         x.then(3);
         due("TOO LONG", x.said(0, 0), STATE);
-        x.clear();
+        promise11Forty();
         AfterEachVowel y = begin(11);
         learn(y, "aaaaaaaaab", 0);
         y.rule(3, 1, 0);
@@ -550,6 +579,25 @@ public final class PromisesTest {
         due("9 * 3 and 2", y.said(0, -1), 38);
         y.set(0, 0, 0);
         due("no vowels", y.said(0, -1), 11);
+    }
+
+    private static void promise11Forty() {
+        AfterEachVowel x = begin(11);
+        learn(x, "aaaaaaaaaa", 0);
+        x.rule(1, 0, 0);
+        x.rule(2, 0, 4);
+        x.rule(4, 0, 7);
+        x.rule(5, 0, 0);
+        x.rule(0, 0, 0);
+        x.rule(3, 0, 0);
+        for (int rule : new int[] {0, 0, 1, 2, 3, 4}) {
+            x.then(rule);
+        }
+        same("forty by all that keep it so", saying(x, 0), "l".repeat(40));
+        x.then(0);
+        due("no vowels: AFTER keeps it so, too", x.said(0, -1), 40);
+        x.then(5);
+        due("AT ENDS does not", x.said(0, -1), STATE);
     }
 
     private static void promise12() {
@@ -741,7 +789,13 @@ public final class PromisesTest {
         learn(x, "bcd", 30);
         due("all(0)", x.all(0), -10 - 40);
         due("all(1)", x.all(1), 5);
-        due("all(2)", x.all(2), 0);
+        x.rule(2, 0, 1);
+        x.drawn(3);
+        due("all(2) after a drawn row", x.all(2), 0);
+        x.set(0, 0, 0x3FFFFFF);
+        x.drawn(3);
+        x.set(0, 0, FIRST_VOWELS);
+        due("all(1) after a drawn row", x.all(1), 5);
         due("all(4)", x.all(4), 0);
         x.then(0);
         due("all(0)", x.all(0), 15 - 10 - 40);
@@ -834,6 +888,14 @@ public final class PromisesTest {
         x.rule(5, 0, 25);
         x.rule(5, 0, 25);
         due("order(1) of six", x.order(1), 134562);
+        AfterEachVowel y = begin(16);
+        learn(y, "bcd", 0);
+        y.image();
+        y.rule(5, 0, 9);
+        due("order(0)", y.order(0), 5 - 3 - 9);
+        y.back();
+        due("order(0), no rules any more", y.order(0), -3);
+        due("order(1), no rules any more", y.order(1), 0);
     }
 
     private static void promise17() {
@@ -854,6 +916,9 @@ public final class PromisesTest {
         x.set(0, 0, 0x1FFFFFF);
         due("letter(0, 0): z alone is no vowel", x.letter(0, 0), 25);
         due("letter(0, 1)", x.letter(0, 1), 1);
+        x.set(0, 0, 0x3FFFFFF);
+        due("letter(0, 0): all are vowels", x.letter(0, 0), 0);
+        due("letter(0, 1)", x.letter(0, 1), 0);
         AfterEachVowel y = begin(17);
         y.rule(1, 0, 0);
         learn(y, "ae", 0);
