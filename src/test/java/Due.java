@@ -24,6 +24,10 @@ final class Due {
         return wrong;
     }
 
+    static int asked() {
+        return asked;
+    }
+
     /** Ends the program with 1 if an answer was wrong, or if nothing was asked. */
     static void end(String test) {
         System.out.println(test + ": " + asked + " answers, " + wrong + " of them wrong");
