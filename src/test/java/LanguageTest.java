@@ -15,6 +15,7 @@ import java.util.regex.Pattern;
 /** The document's face, and the rules of LANGUAGE.md that can be looked for. */
 public final class LanguageTest {
     private static final Path SOURCE = Path.of("src/main/java/AfterEachVowel.java");
+    private static final Path DOCUMENT = Path.of("../shared/DOC.md");
     private static final String[] FACE = {
         "int learn(int,int)", "int rule(int,int,int)", "int then(int)", "int clear()", "int set(int,int,int)",
         "int told(int,int)", "int feed(int)", "int text()", "int force(int)", "int said(int,int)",
@@ -29,6 +30,9 @@ public final class LanguageTest {
 
     public static void main(String[] args) throws IOException {
         lookAtFace();
+        if (Files.exists(DOCUMENT)) {
+            lookAtDocument(Files.readString(DOCUMENT));
+        }
         lookAtClasses();
         String code = withoutComments(Files.readString(SOURCE));
         lookForWords(code);
@@ -76,6 +80,25 @@ public final class LanguageTest {
         Constructor<?>[] makers = face.getDeclaredConstructors();
         Due.holds("one constructor", makers.length == 1 && makers[0].getParameterCount() == 0
             && Modifier.isPublic(makers[0].getModifiers()));
+    }
+
+    /** That FACE, by which the class is measured, is still the document's. */
+    private static void lookAtDocument(String document) {
+        Set<String> methods = new TreeSet<>();
+        Matcher method = Pattern.compile("(?m)^    public (int|long) (\\w+)\\((.*)\\);$").matcher(document);
+        while (method.find()) {
+            String types = method.group(3).replaceAll(" \\w+(, |$)", "$1").replace(", ", ",");
+            methods.add(method.group(1) + " " + method.group(2) + "(" + types + ")");
+        }
+        Due.holds("the document's methods are " + methods, methods.equals(new TreeSet<>(List.of(FACE))));
+        Set<String> constants = new TreeSet<>();
+        Matcher row = Pattern.compile("(?m)^    public static final (?:int|long) (.*);$").matcher(document);
+        while (row.find()) {
+            constants.addAll(List.of(row.group(1).split(", ")));
+        }
+        Due.holds("the document's constants are " + constants, constants.equals(new TreeSet<>(List.of(
+            "NONE = " + AfterEachVowel.NONE, "BAD = " + AfterEachVowel.BAD, "STATE = " + AfterEachVowel.STATE,
+            "FULL = " + AfterEachVowel.FULL, "NO = " + AfterEachVowel.NO + "L"))));
     }
 
     private static List<Class<?>> withInner(Class<?> face) {
